@@ -512,6 +512,11 @@ final class Model {
     }
 
     int told(int what) {
+        return allTold().getOrDefault(what, OUTSIDE);
+    }
+
+    /** What told() tells, by its numbers. */
+    Map<Integer, Integer> allTold() {
         Map<Integer, Integer> rows = new HashMap<>();
         int bits = now.families.keySet().stream().mapToInt(f -> 1 << f).sum();
         int[] all = {pad.length(), bits, now.wind, now.force, now.rain, now.hours,
@@ -525,6 +530,6 @@ final class Model {
             rows.put(row + 3, f.blown);
         });
         for (int i = 0; i < 36; i++) rows.put(100 + i, now.lies[i]);
-        return rows.getOrDefault(what, OUTSIDE);
+        return rows;
     }
 }
