@@ -30,6 +30,8 @@ public final class EdgesOfBreathsTest {
         p26ActsFrom1To99();
         p26LeftOverBy65537();
         p26EachActThatCanNotBe();
+        p26EachWindAndForce();
+        p26MowingAndSheep();
         p26AtHour99();
         p26FromAllAsItIs();
         p26AtTheLimits();
@@ -505,6 +507,69 @@ public final class EdgesOfBreathsTest {
             }
         }
         Checks.due("p26 enough years were found", puffs, 60);
+    }
+
+    /** A WIND that is drawn, and then a puff by it from each corner. */
+    private static void p26EachWindAndForce() {
+        boolean[] ways = new boolean[24];
+        for (int seed = 0; seed <= 9999; seed++) {
+            int first = draw(seed);
+            int second = draw(first);
+            if (kindOf(first) == 5 && isPuff(second)) {
+                int wind = first / 48 % 4;
+                int force = first / 192 % 6;
+                ways[6 * wind + force] = true;
+                for (int from : new int[] {0, 5, 30, 35}) {
+                    drawnPuff(seed, from, wind, force, second);
+                }
+            }
+        }
+        for (int way = 0; way < 24; way++) {
+            Checks.holds("p26 a year was found with way " + way, ways[way]);
+        }
+    }
+
+    private static void drawnPuff(int seed, int from, int wind, int force, int puff) {
+        int y = from / 6 + (wind == 0 ? force : wind == 2 ? -force : 0);
+        int e = from % 6 + (wind == 1 ? force : wind == 3 ? -force : 0);
+        boolean inside = y >= 0 && y <= 5 && e >= 0 && e <= 5;
+        boolean home = force == 0;
+        int many = puffOf(puff);
+        SeedBank x = new SeedBank();
+        x.set(1, home ? 1 : 0);
+        x.family(puff % 6, from, 60, 9);
+        String call = "p26 from " + from + " of " + seed;
+        Checks.due(call, x.year(seed, 2, 0), home ? 60 : 60 - many);
+        Checks.due(call + " lies", x.year(seed, 2, 1), inside && !home ? many : 0);
+        Checks.due(call + " lost", x.year(seed, 2, 2), inside ? 0 : many);
+        if (inside && !home) {
+            x.family((puff + 1) % 6, 6 * y + e, 60, 9);
+            x.lay(6 * y + e, 999);
+            Checks.due(call + " onto one that is full", x.year(seed, 2, 0), 120 - many);
+            Checks.due(call + " where no more can lie", x.year(seed, 2, 1), 999);
+            Checks.due(call + " all is lost", x.year(seed, 2, 2), many);
+        }
+    }
+
+    private static void p26MowingAndSheep() {
+        for (int seed = 0; seed <= 9999; seed += 7) {
+            int x = draw(seed);
+            int kind = kindOf(x);
+            if (kind == 3 || kind == 6) {
+                SeedBank its = new SeedBank();
+                its.family(x % 6, 35, 10, 1);
+                its.lay(35, 51);
+                Checks.due("p26 mows of " + seed, its.year(seed, 1, 0), kind == 3 ? 60 : 10);
+                Checks.due("p26 what it left of " + seed, its.year(seed, 1, 1), kind == 3 ? 1 : 26);
+                Checks.due("p26 the sheep of " + seed, its.year(seed, 1, 2), kind == 3 ? 0 : 25);
+                SeedBank other = new SeedBank();
+                other.family((x + 1) % 6, 35, 10, 1);
+                other.lay(35, 51);
+                Checks.due("p26 no other mows of " + seed, other.year(seed, 1, 0), 10);
+                other.lay(35, 0);
+                Checks.due("p26 nothing lies of " + seed, other.year(seed, 1, 0), 10);
+            }
+        }
     }
 
     /** A puff, an hour, a puff of the same FAMILY: the second needs the breath of the hour. */

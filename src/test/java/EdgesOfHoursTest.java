@@ -35,6 +35,7 @@ public final class EdgesOfHoursTest {
         p13WhoHadNoneAhead();
         p13RuinedForAWhile();
         p13OneBehindAnother();
+        p13NobodyAnyMore();
         p14NoAct();
         p14SixtyActs();
         p14NotByHalves();
@@ -573,6 +574,15 @@ public final class EdgesOfHoursTest {
         ruin(x, "FcEcDcCcBcAc", 0, 5);
         ruin(x, "AcBcCcDcEcFc", 0, 0);
         ruin(x, "F5E4F1A1", 2, 5);
+    }
+
+    /** What was so of a longer PAD is not so of the next. */
+    private static void p13NobodyAnyMore() {
+        SeedBank x = alone(9, 9);
+        ruin(x, "Ac", 0, 0);
+        ruin(x, "", NONE, NONE);
+        ruin(x, "s.Ac", 2, 0);
+        ruin(x, "A1", NONE, NONE);
     }
 
     private static void p14NoAct() {
