@@ -36,6 +36,7 @@ public final class EdgesOfBreathsTest {
         p26FromAllAsItIs();
         p26AtTheLimits();
         p26NothingIsDone();
+        p20To25NothingElseIsAMatter();
         Checks.end();
     }
 
@@ -659,5 +660,42 @@ public final class EdgesOfBreathsTest {
         for (int i = 0; i < before.length; i++) {
             Checks.due("p26 changes nothing " + i, behind[i], before[i]);
         }
+    }
+
+    private static String breathsOf(SeedBank x) {
+        StringBuilder answers = new StringBuilder();
+        answers.append(x.seen(9, 81)).append(' ').append(x.forget());
+        answers.append(' ').append(x.seen(3, 12));
+        for (int i = -1; i < 40; i++) {
+            answers.append(' ').append(x.fits(i));
+        }
+        answers.append(' ').append(x.tries(0)).append(' ').append(x.tries(1));
+        for (int to = -1; to < 36; to++) {
+            answers.append(' ').append(x.gusts(14, to, 4, 0));
+            answers.append('/').append(x.gusts(14, to, 4, 1));
+        }
+        for (int n = 0; n <= 99; n++) {
+            answers.append(' ').append(x.lovers(n, 4, 1));
+        }
+        return answers.toString();
+    }
+
+    /** Breaths that were seen, gusts and lovers do not ask how the meadow is. */
+    private static void p20To25NothingElseIsAMatter() {
+        String want = breathsOf(new SeedBank());
+        SeedBank x = row(60, 9);
+        x.set(0, 3);
+        x.set(1, 5);
+        x.set(2, 1);
+        x.lay(14, 999);
+        x.lay(20, 999);
+        Checks.say(x, "A9~");
+        Checks.holds("p20 to p25 in wind and rain", breathsOf(x).equals(want));
+        SeedBank rain = row(0, 1);
+        rain.set(2, 1);
+        rain.set(1, 0);
+        Checks.say(rain, ".....");
+        rain.done();
+        Checks.holds("p20 to p25 behind hours", breathsOf(rain).equals(want));
     }
 }

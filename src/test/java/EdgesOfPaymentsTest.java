@@ -29,6 +29,7 @@ public final class EdgesOfPaymentsTest {
         p19AllSixAlike();
         p19OverOneEach();
         p19WhoHasNone();
+        p15To19AsThingsAreNow();
         Checks.end();
     }
 
@@ -458,5 +459,66 @@ public final class EdgesOfPaymentsTest {
         x.leave(1);
         Checks.due("p19 who has left is not asked", x.tax(1, 10), SeedBank.UNKNOWN);
         Checks.due("p19 who stays bears all", x.tax(2, 10), 10);
+    }
+
+    /** Four families, three of them in a row, and seeds about them. */
+    private static SeedBank four() {
+        SeedBank x = new SeedBank();
+        x.family(0, 0, 60, 9);
+        x.family(1, 3, 58, 4);
+        x.family(2, 21, 4, 1);
+        x.family(4, 5, 1, 9);
+        x.lay(3, 998);
+        x.lay(14, 7);
+        x.lay(35, 500);
+        return x;
+    }
+
+    private static String asksOf(SeedBank x) {
+        StringBuilder answers = new StringBuilder();
+        for (int one = 0; one < 6; one++) {
+            answers.append(" tax ").append(x.tax(one, 100));
+            for (int other = 0; other < 6; other++) {
+                answers.append(" pays ").append(x.pays(one, other));
+                answers.append(" over ").append(x.over(one, other, 0));
+                answers.append(" first ").append(x.over(one, other, 1));
+            }
+        }
+        for (int k = 1; k <= 6; k++) {
+            answers.append(" bellows ").append(x.bellows(k, 0));
+            answers.append(" in ").append(x.bellows(k, 1));
+        }
+        return answers.toString();
+    }
+
+    private static String yearsOf(SeedBank x) {
+        StringBuilder answers = new StringBuilder();
+        for (int m = 0; m <= 12; m++) {
+            answers.append(" lies ").append(x.principal(m, 0));
+            answers.append(" in ").append(x.principal(m, 1));
+        }
+        return answers.toString();
+    }
+
+    /** RAIN and the PAD, whatever it says, are no matter; WIND and FORCE are one for principal. */
+    private static void p15To19AsThingsAreNow() {
+        String[] pads = {"", "AcBcCcEc", "w25sss", "A9.A1Bm", "F1", "A", "w4", "~"};
+        String want = asksOf(four());
+        Checks.holds("p15 to p19 ask enough", want.contains(" pays 13 over 1 first 1"));
+        for (int i = 0; i < 24 * pads.length; i++) {
+            SeedBank calm = four();
+            calm.set(0, i % 4);
+            calm.set(1, i / 4 % 6);
+            SeedBank x = four();
+            x.set(0, i % 4);
+            x.set(1, i / 4 % 6);
+            x.set(2, 1);
+            String pad = pads[i / 24];
+            Checks.say(x, pad);
+            String when = " at w" + i % 4 + i / 4 % 6 + " with the pad " + pad;
+            Checks.holds("p15 to p19 as now" + when, asksOf(x).equals(want));
+            Checks.holds("p18 as now" + when, yearsOf(x).equals(yearsOf(calm)));
+            Checks.due("p07 the pad is as it was" + when, x.wipe(), pad.length());
+        }
     }
 }
